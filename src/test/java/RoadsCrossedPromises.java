@@ -159,6 +159,7 @@ public final class RoadsCrossedPromises {
         due("post at the far end", x.post(99, 99), 1);
         due("post with x and y the other way round", x.post(99, 0), 2);
         due("post there again", x.post(99, 99), NO);
+        due("post where the first is", x.post(0, 0), NO);
         due("x below", x.post(-1, 0), BAD);
         due("x above", x.post(100, 5), BAD);
         due("y below", x.post(3, -1), BAD);
@@ -185,6 +186,15 @@ public final class RoadsCrossedPromises {
         }
         due("place of post 3", x.postTold(3, 3), 0);
         due("layer at first", x.postTold(3, 2), 0);
+        RoadsCrossed star = posts(5);
+        star.road(0, 20, 1);
+        star.road(0, 21, 1);
+        star.road(0, 23, 1);
+        star.road(0, 3, 1);
+        int[] from = {2, 1, 3, 2, 0};
+        for (int p = 0; p < 5; p++) {
+            due("roads from post " + p, star.postTold(p, 4), from[p]);
+        }
         due("what above", x.postTold(1, 5), BAD);
         due("what below", x.postTold(1, -1), BAD);
         due("post above", x.postTold(4, 0), BAD);
@@ -358,6 +368,8 @@ public final class RoadsCrossedPromises {
         due("none is there", x.drop(0), BAD);
         due("where one was", x.road(0, 32, 1), 0);
         due("a new road is on page 0", x.told(0, 4), 0);
+        due("where one on page 3 was", x.road(0, 31, 1), 1);
+        due("a new road is on page 0", x.told(1, 4), 0);
     }
 
     private static void cross() {
@@ -393,6 +405,7 @@ public final class RoadsCrossedPromises {
         due("over an end, upright", upright.cross(0, 1), 1);
         upright.move(2, 5, 5);
         due("behind, upright", upright.cross(0, 1), 0);
+        alongOneLine();
         RoadsCrossed far = new RoadsCrossed();
         far.post(0, 0);
         far.post(99, 98);
@@ -403,6 +416,29 @@ public final class RoadsCrossedPromises {
         due("close by at the far end", far.cross(0, 1), 0);
         far.move(3, 97, 97);
         due("right over it at the far end", far.cross(0, 1), 1);
+    }
+
+    /** Two roads on one straight line, their four ends in every order along it. */
+    private static void alongOneLine() {
+        for (int orders = 0; orders < 256; orders++) {
+            int a = orders & 3;
+            int b = orders >> 2 & 3;
+            int c = orders >> 4 & 3;
+            int d = orders >> 6;
+            if ((1 << a | 1 << b | 1 << c | 1 << d) != 15) {
+                continue;
+            }
+            boolean apart = Math.max(a, b) < Math.min(c, d) || Math.max(c, d) < Math.min(a, b);
+            for (int way = 0; way < 3; way++) {
+                RoadsCrossed x = new RoadsCrossed();
+                for (int step : new int[] {a, b, c, d}) {
+                    x.post(way == 0 ? 5 : 7 * step, way == 1 ? 5 : 50 - 3 * step);
+                }
+                x.road(0, 1, 1);
+                x.road(0, 23, 1);
+                due("along one line, " + a + b + c + d, x.cross(0, 1), apart ? 0 : 1);
+            }
+        }
     }
 
     private static void straight() {
@@ -446,6 +482,15 @@ public final class RoadsCrossedPromises {
         due("not the first, which crosses none", later.straight(2), 1);
         say(later, "cross 0");
         due("the first, which crosses none", later.straight(2), 0);
+        RoadsCrossed three = crossedSquare();
+        three.set(0, 0, 9);
+        three.set(1, 0, 1);
+        three.post(7, 0);
+        three.post(8, 1);
+        three.road(0, 45, 1);
+        due("the one that crosses both others", three.straight(2), 1);
+        three.turns(0, 5);
+        due("a cost of 1 counts", three.straight(1), 3);
     }
 
     private static void bound() {
@@ -585,6 +630,8 @@ public final class RoadsCrossedPromises {
         due("no post", x.line(1), BAD);
         row(x, 1, 1, 0, 1, 1);
         due("one twice", x.line(1), BAD);
+        row(x, 1, 1, 3, 1, 2);
+        due("the first is no post", x.line(1), BAD);
         due("the line as it was", x.at(2), 2);
         row(x, 1, 1, 2, 0, 1);
         due("line", x.line(1), 3);
@@ -682,6 +729,11 @@ public final class RoadsCrossedPromises {
         for (int r = 0; r < 5; r++) {
             due("page of road " + r, chain.pages(r), ways[r]);
         }
+        chain.drop(1);
+        int[] without = {0, 1, 0, 0};
+        for (int r = 0; r < 4; r++) {
+            due("page of road " + r, chain.pages(r), without[r]);
+        }
     }
 
     private static void bestLine() {
@@ -749,6 +801,15 @@ public final class RoadsCrossedPromises {
         down.road(0, 3, 1);
         down.road(0, 12, 1);
         due("the lesser posts below", down.layers(0), 1);
+        RoadsCrossed mixed = posts(4);
+        mixed.layer(1, 1);
+        mixed.layer(3, 1);
+        mixed.road(0, 3, 1);
+        mixed.road(0, 12, 1);
+        due("one road from the lesser post down, one up", mixed.layers(0), 1);
+        row(mixed, 0, 0, 0, 3, 2, 1);
+        mixed.line(0);
+        due("the same along another line", mixed.layers(0), 0);
         RoadsCrossed gap = posts(4);
         gap.layer(2, 2);
         gap.layer(3, 2);
@@ -791,6 +852,31 @@ public final class RoadsCrossedPromises {
         row(six, 0, 0, 4, 3, 5, 2, 1, 0);
         six.line(0);
         due("the first of several, whatever the line", six.bestRow(0, 0), 0);
+        RoadsCrossed four = posts(8);
+        int[] order = {2, 0, 3, 1};
+        for (int p = 4; p < 8; p++) {
+            four.layer(p, 1);
+            four.road(0, 10 * p + order[p - 4], 1);
+        }
+        row(four, 0, 0, 3, 4, 1, 5, 0, 6, 7, 2);
+        four.line(0);
+        due("just one order is the best", four.bestRow(0, -1), 0);
+        for (int i = 0; i < 4; i++) {
+            due("place " + i, four.bestRow(0, i), order[i]);
+        }
+        due("place 2 of the other layer", four.bestRow(1, 2), 5);
+        RoadsCrossed five = posts(8);
+        five.layer(5, 1);
+        five.layer(6, 1);
+        five.layer(7, 1);
+        int[] ends = {7, 6, 5, 5, 5};
+        for (int p = 0; p < 5; p++) {
+            five.road(0, 10 * p + ends[p], 1);
+        }
+        int[] last = {2, 3, 4, 1, 0};
+        for (int i = 0; i < 5; i++) {
+            due("place " + i + " of five", five.bestRow(0, i), last[i]);
+        }
         // 1 stands in the line between the posts of layer 0, so their places are not side by side.
         RoadsCrossed gap = posts(4);
         gap.layer(1, 1);
@@ -919,7 +1005,7 @@ public final class RoadsCrossedPromises {
 
     private static void textFaults() {
         String[] texts = {
-            "", "0", "   ", "3", "harm", "4", "harm ", "5", "harms w", "0", "Harm w", "0", "har", "0", "harm w w", "7",
+            "", "0", "   ", "3", "harm", "4", "harm ", "5", "harms w", "0", "barm w", "0", "closs p", "0", "Harm w", "0", "har", "0", "harm w w", "7",
             "harm5", "4", "harm 5w", "6", "harm w5", "6", "harm 12345", "5", "harm 1+00001", "7", "harm wa", "5", "harm p", "5",
             "cross w", "6", "cross a", "6", "swap w", "5", "swap q", "5", "harm -1", "5", "harm 1+", "7", "harm 1++1", "7",
             "harm 1<2<3", "8", "harm 1=2>3", "8", "harm (1<2)=(2<3)", "-", "harm 1<2&3=4|5>6", "-", "harm 1&&1", "7",
@@ -1000,6 +1086,7 @@ public final class RoadsCrossedPromises {
         RoadsCrossed x = new RoadsCrossed();
         due("none", x.why(0), NONE);
         say(x, "harm w");
+        due("text 0", x.why(0), 0);
         say(x, "swap a");
         say(x, "harm 1");
         due("the last of harm", x.why(0), 2);
@@ -1253,6 +1340,7 @@ public final class RoadsCrossedPromises {
         due("the second is not", check(x, 2, 1, 1, -1, 0), 2);
         due("the third is not", check(x, 2, 1, 0, 1, 0), 3);
         due("the fourth is not", check(x, 2, 1, 0, -1, 8), 4);
+        due("as told once more", check(x, 2, 1, 0, -1, 0), 0);
         due("one is missing", check(x, 2, 1, 0, -1), 4);
         due("two are missing", check(x, 2, 1, 0), 3);
         due("all are missing", check(x, 2), 1);
@@ -1313,7 +1401,6 @@ public final class RoadsCrossedPromises {
         x.keep();
         for (int again = 0; again < 2; again++) {
             x.lay(0, 3, 12);
-            x.deal(0, 3);
             x.layer(2, 0);
             x.set(1, 1, 0);
             x.set(1, 0, 1);
@@ -1323,7 +1410,10 @@ public final class RoadsCrossedPromises {
             x.line(0);
             say(x, "harm 0");
             say(x, "cross 0");
-            x.drop(0);
+            x.road(5, 1, 1);
+            x.set(2, 1, 3);
+            x.deal(0, 3);
+            x.layer(5, 3);
             x.tell(4);
             x.feed(1, 2, 3);
             due("back", x.back(), 2);
@@ -1341,6 +1431,15 @@ public final class RoadsCrossedPromises {
             due("harm by the text of the image", x.told(1, 5), 10);
             due("line", x.at(0), 3);
             due("place in the line", x.postTold(3, 3), 0);
+            due("a new post", x.post(60, 60), 4);
+            due("a new post", x.post(61, 60), 5);
+            due("its layer", x.postTold(5, 2), 0);
+            due("its place in the line", x.postTold(5, 3), 5);
+            due("a new road", x.road(0, 1, 1), 2);
+            due("its page", x.told(2, 4), 0);
+            x.drop(0);
+            x.back();
+            due("back once more", x.told(0, 2), 2);
             due("slots stay", x.rest(0, 5), 2);
             x.lay(1, 2, 0);
             due("sheets stay", x.item(1, 0), 1);
