@@ -58,15 +58,12 @@ public final class RoadsCrossed {
     private final Land image = new Land();
     private final Land trial = new Land();
     private boolean kept = false;
-    private final Laws laws = new Laws();
-    private final int[] tape = new int[TAPE_MOST];
-    private int taped = 0;
-    private final Reader reader = new Reader(tape);
-    private final Costs costs = new Costs(laws);
-    private final SwapSearch swapSearch = new SwapSearch(laws, costs);
+    private final Reader reader = new Reader();
+    private final Costs costs = new Costs();
+    private final SwapSearch swapSearch = new SwapSearch();
     private final PageSearch pageSearch = new PageSearch();
-    private final LineSearch lineSearch = new LineSearch(costs);
-    private final RowSearch rowSearch = new RowSearch(costs);
+    private final LineSearch lineSearch = new LineSearch();
+    private final RowSearch rowSearch = new RowSearch();
     private final Sheet[] sheets = new Sheet[SHEETS];
     private final Slot[] slots = new Slot[SLOTS];
     private final int[] waiting = new int[WAIT_MOST];
@@ -249,7 +246,7 @@ public final class RoadsCrossed {
             return BAD;
         }
         costs.reckon(now);
-        if (!swapSearch.search(now)) {
+        if (!swapSearch.search(now, costs)) {
             return NONE;
         }
         return what == 0 ? swapSearch.pair() : swapSearch.least;
@@ -262,7 +259,7 @@ public final class RoadsCrossed {
         costs.reckon(now);
         int done = 0;
         for (; done < n; done++) {
-            if (!swapSearch.search(now)) {
+            if (!swapSearch.search(now, costs)) {
                 break;
             }
             now.swapPosts(swapSearch.one, swapSearch.other);
@@ -323,7 +320,7 @@ public final class RoadsCrossed {
             return NONE;
         }
         costs.reckon(now);
-        lineSearch.search(now);
+        lineSearch.search(now, costs.ofTwo);
         return what == -1 ? lineSearch.least : lineSearch.found[what];
     }
 
@@ -344,7 +341,7 @@ public final class RoadsCrossed {
         }
         costs.reckon(now);
         trial.takeFrom(now);
-        rowSearch.search(trial, layer);
+        rowSearch.search(trial, layer, costs);
         return what == -1 ? rowSearch.least : rowSearch.found[what];
     }
 
@@ -375,34 +372,33 @@ public final class RoadsCrossed {
     // ---- texts
 
     public int feed(int a, int b, int c) {
-        if (taped + 12 > TAPE_MOST) {
+        if (reader.taped + 12 > TAPE_MOST) {
             return FULL;
         }
-        feedNumber(a);
-        feedNumber(b);
-        feedNumber(c);
-        return taped;
+        reader.feedNumber(a);
+        reader.feedNumber(b);
+        reader.feedNumber(c);
+        return reader.taped;
     }
 
     public int trim(int n) {
-        if (n < 0 || n > taped) {
+        if (n < 0 || n > reader.taped) {
             return BAD;
         }
-        taped = n;
+        reader.taped = n;
         return n;
     }
 
     public int text() {
-        int length = taped;
-        taped = 0;
-        int fault = reader.read(length);
+        int fault = reader.read();
+        reader.taped = 0;
         if (fault >= 0) {
             return -100 - fault;
         }
         if (now.texts >= TEXTS_MOST) {
             return FULL;
         }
-        laws.put(now.texts, reader);
+        costs.laws.put(now.texts, reader);
         now.texts++;
         return now.texts - 1;
     }
@@ -413,9 +409,9 @@ public final class RoadsCrossed {
         }
         switch (what) {
             case 0:
-                return laws.keys[text];
+                return costs.laws.keys[text];
             case 1:
-                return laws.leaves[text];
+                return costs.laws.leaves[text];
             default:
                 return BAD;
         }
@@ -425,7 +421,7 @@ public final class RoadsCrossed {
         if (key < 0 || key >= KEYS) {
             return BAD;
         }
-        int text = laws.lastOf(now.texts, key);
+        int text = costs.laws.lastOf(now.texts, key);
         return text < 0 ? NONE : text;
     }
 
@@ -625,7 +621,7 @@ public final class RoadsCrossed {
             case 3:
                 return waits;
             case 4:
-                return taped;
+                return reader.taped;
             case 5:
                 return now.z;
             default:
@@ -663,21 +659,12 @@ public final class RoadsCrossed {
         return dearest;
     }
 
-    private void feedNumber(int v) {
-        for (int shift = 24; shift >= 0; shift -= 8) {
-            if (taped < TAPE_MOST) {
-                tape[taped] = v >>> shift & 255;
-                taped++;
-            }
-        }
-    }
-
     private int checkSwapsTold(int n, int told) {
         trial.takeFrom(image);
         costs.reckon(trial);
         for (int i = 0; i < n; i++) {
             int pair = -1;
-            if (swapSearch.search(trial)) {
+            if (swapSearch.search(trial, costs)) {
                 pair = swapSearch.pair();
                 trial.swapPosts(swapSearch.one, swapSearch.other);
             }
@@ -832,7 +819,7 @@ public final class RoadsCrossed {
         }
 
         int postRefusal(int px, int py) {
-            if (!RoadsCrossed.isPlace(px, py)) {
+            if (!isPlace(px, py)) {
                 return BAD;
             }
             if (postAt(px, py) >= 0) {
@@ -1136,7 +1123,7 @@ public final class RoadsCrossed {
         }
     }
 
-    /** Reads a tape as a text, and writes it down with each sign behind what it joins. */
+    /** The tape; reads it as a text, and writes that down with each sign behind what it joins. */
     private static final class Reader {
         /** Signs of a text that is written down: numbers as they are, names, then bytes below 0. */
         static final int FIRST_NAME = -1;
@@ -1153,28 +1140,35 @@ public final class RoadsCrossed {
         private static final int DIGITS = -3;
         private static final int STUCK = -4;
 
+        /** How tightly signs bind, the loosest first. */
         private static final int OR = 0;
+        private static final int AND = 1;
         private static final int TEST = 2;
+        private static final int SUM = 3;
         private static final int TERM = 4;
 
+        int taped = 0;
         int key = 0;
         int leaves = 0;
         int length = 0;
         final int[] code = new int[TAPE_MOST];
-        private final int[] bytes;
-        private int many = 0;
+        private final int[] tape = new int[TAPE_MOST];
         private int token = END;
         private int from = 0;
         private int to = 0;
         private int fault = -1;
 
-        Reader(int[] tape) {
-            bytes = tape;
+        void feedNumber(int v) {
+            for (int shift = 24; shift >= 0; shift -= 8) {
+                if (taped < TAPE_MOST) {
+                    tape[taped] = v >>> shift & 255;
+                    taped++;
+                }
+            }
         }
 
         /** The place of the fault; -1: there is none, and key, leaves, code and length tell the text. */
-        int read(int taped) {
-            many = Math.min(taped, bytes.length);
+        int read() {
             token = END;
             to = 0;
             fault = -1;
@@ -1204,18 +1198,18 @@ public final class RoadsCrossed {
             int last = to;
             boolean behindWord = token == LETTERS || token == DIGITS;
             from = behindRow(last, BLANK, BLANK);
-            if (from >= many) {
-                to = many;
+            if (from >= taped) {
+                to = taped;
                 token = END;
-            } else if (isWithin(bytes[from], 'a', 'z')) {
+            } else if (isWithin(tape[from], 'a', 'z')) {
                 to = behindRow(from, 'a', 'z');
                 token = LETTERS;
-            } else if (isWithin(bytes[from], '0', '9')) {
+            } else if (isWithin(tape[from], '0', '9')) {
                 to = behindRow(from, '0', '9');
                 token = DIGITS;
             } else {
                 to = from + 1;
-                token = bytes[from];
+                token = tape[from];
             }
             if (behindWord && from == last && (token == LETTERS || token == DIGITS)) {
                 token = STUCK;
@@ -1228,12 +1222,12 @@ public final class RoadsCrossed {
 
         /** The first place from one on whose byte is not within two others. */
         private int behindRow(int start, int least, int most) {
-            for (int i = start; i < many; i++) {
-                if (!isWithin(bytes[i], least, most)) {
+            for (int i = start; i < taped; i++) {
+                if (!isWithin(tape[i], least, most)) {
                     return i;
                 }
             }
-            return many;
+            return taped;
         }
 
         private boolean isHere(String word) {
@@ -1241,7 +1235,7 @@ public final class RoadsCrossed {
                 return false;
             }
             for (int i = 0; i < word.length(); i++) {
-                if (bytes[from + i] != word.charAt(i)) {
+                if (tape[from + i] != word.charAt(i)) {
                     return false;
                 }
             }
@@ -1273,20 +1267,20 @@ public final class RoadsCrossed {
             }
         }
 
-        /** How tightly a sign between two pieces binds, the loosest 0; -1: it is no such sign. */
+        /** How tightly a sign between two pieces binds; -1: it is no such sign. */
         private static int levelOf(int sign) {
             switch (sign) {
                 case '|':
                     return OR;
                 case '&':
-                    return OR + 1;
+                    return AND;
                 case '<':
                 case '=':
                 case '>':
                     return TEST;
                 case '+':
                 case '-':
-                    return TEST + 1;
+                    return SUM;
                 case '*':
                 case '/':
                     return TERM;
@@ -1320,7 +1314,7 @@ public final class RoadsCrossed {
         private int numberHere() {
             int v = 0;
             for (int i = from; i < to; i++) {
-                v = 10 * v + bytes[i] - '0';
+                v = 10 * v + tape[i] - '0';
             }
             return v;
         }
@@ -1330,7 +1324,7 @@ public final class RoadsCrossed {
             if (to - from != 1) {
                 return 0;
             }
-            switch (bytes[from]) {
+            switch (tape[from]) {
                 case 'w':
                     return key == HARM_KEY ? FIRST_NAME : 0;
                 case 'a':
@@ -1362,13 +1356,9 @@ public final class RoadsCrossed {
 
     /** What each road harms and what each two roads cost, if they cross; reckoned anew for each call. */
     private static final class Costs {
-        private final Laws laws;
+        final Laws laws = new Laws();
         private final int[] harms = new int[ROADS_MOST];
         final int[][] ofTwo = new int[ROADS_MOST][ROADS_MOST];
-
-        Costs(Laws laws) {
-            this.laws = laws;
-        }
 
         int harmOf(Land land, int r) {
             int text = laws.lastOf(land.texts, HARM_KEY);
@@ -1418,25 +1408,18 @@ public final class RoadsCrossed {
 
     /** BEST SWAP of a land whose costs have been reckoned. */
     private static final class SwapSearch {
-        private final Laws laws;
-        private final Costs costs;
         int one = 0;
         int other = 0;
         int least = 0;
 
-        SwapSearch(Laws laws, Costs costs) {
-            this.laws = laws;
-            this.costs = costs;
-        }
-
         /** Whether there is one: one, other, and the least cost behind it (else the cost now). */
-        boolean search(Land land) {
-            int text = laws.lastOf(land.texts, SWAP_KEY);
+        boolean search(Land land, Costs costs) {
+            int text = costs.laws.lastOf(land.texts, SWAP_KEY);
             boolean found = false;
             least = costs.sum(land, STRAIGHT, NO_LIMIT);
             for (int a = 0; a < land.posts; a++) {
                 for (int b = a + 1; b < land.posts; b++) {
-                    if (text >= 0 && laws.answer(text, a, b, 0) == 0) {
+                    if (text >= 0 && costs.laws.answer(text, a, b, 0) == 0) {
                         continue;
                     }
                     land.swapPosts(a, b);
@@ -1521,14 +1504,9 @@ public final class RoadsCrossed {
         private int posts = 0;
         /** The road between two posts; -1: there is none. */
         private final int[][] between = new int[POSTS_MOST][POSTS_MOST];
-        private final int[][] costs;
-
-        LineSearch(Costs costs) {
-            this.costs = costs.ofTwo;
-        }
 
         /** Only for a land with posts. */
-        void search(Land land) {
+        void search(Land land, int[][] costs) {
             posts = land.posts;
             for (int p = 0; p < posts; p++) {
                 Arrays.fill(between[p], -1);
@@ -1540,11 +1518,11 @@ public final class RoadsCrossed {
             least = NO_LIMIT;
             row[0] = 0;
             standing = 1;
-            extend(this, 1, 0);
+            extend(this, costs, 1, 0);
         }
 
         /** Goes on with a row whose roads cross for a sum so far, as long as it can be the best one. */
-        private static void extend(LineSearch search, int place, int sum) {
+        private static void extend(LineSearch search, int[][] costs, int place, int sum) {
             if (place >= search.posts || place >= POSTS_MOST) {
                 search.least = sum;
                 System.arraycopy(search.row, 0, search.found, 0, POSTS_MOST);
@@ -1552,11 +1530,11 @@ public final class RoadsCrossed {
             }
             for (int post = 1; post < search.posts; post++) {
                 if ((search.standing >> post & 1) == 0) {
-                    int more = sum + search.costOfNext(place, post);
+                    int more = sum + search.costOfNext(costs, place, post);
                     if (more < search.least) {
                         search.row[place] = post;
                         search.standing |= 1 << post;
-                        extend(search, place + 1, more);
+                        extend(search, costs, place + 1, more);
                         search.standing &= ~(1 << post);
                     }
                 }
@@ -1564,25 +1542,25 @@ public final class RoadsCrossed {
         }
 
         /** A road that ends here crosses those that began within it and go on behind this place. */
-        private int costOfNext(int place, int post) {
+        private int costOfNext(int[][] costs, int place, int post) {
             int sum = 0;
             for (int start = 0; start < place; start++) {
                 int ending = between[row[start]][post];
                 if (ending >= 0) {
                     for (int inner = start + 1; inner < place; inner++) {
-                        sum += costOfOpen(ending, row[inner], post);
+                        sum += costOfOpen(costs[ending], row[inner], post);
                     }
                 }
             }
             return sum;
         }
 
-        private int costOfOpen(int ending, int from, int post) {
+        private int costOfOpen(int[] costs, int from, int post) {
             int sum = 0;
             for (int far = 0; far < posts; far++) {
                 int open = between[from][far];
                 if (open >= 0 && far != post && (standing >> far & 1) == 0) {
-                    sum += costs[ending][open];
+                    sum += costs[open];
                 }
             }
             return sum;
@@ -1596,14 +1574,9 @@ public final class RoadsCrossed {
         private final int[] posts = new int[ROW_MOST];
         private final int[] places = new int[ROW_MOST];
         private int size = 0;
-        private final Costs costs;
-
-        RowSearch(Costs costs) {
-            this.costs = costs;
-        }
 
         /** Only for a layer of no more posts than a row; leaves the land's line in some other order. */
-        void search(Land land, int layer) {
+        void search(Land land, int layer, Costs costs) {
             collect(land, layer);
             least = NO_LIMIT;
             for (int order = 0; order < ROW_ORDERS; order++) {
