@@ -31,7 +31,7 @@ public final class RoadsCrossedAgainstModel {
     private static int wrong = 0;
     private static int calls = 0;
 
-    public static void main(String[] args) {
+    public static void main(String[] args) throws ReflectiveOperationException {
         int runs = args.length > 0 ? Integer.parseInt(args[0]) : 80;
         int first = args.length > 1 ? Integer.parseInt(args[1]) : 1;
         for (int seed = first; seed < first + runs && wrong < 10; seed++) {
@@ -43,7 +43,7 @@ public final class RoadsCrossedAgainstModel {
         }
     }
 
-    private static void run(int seed) {
+    private static void run(int seed) throws ReflectiveOperationException {
         Random lot = new Random(seed);
         RoadsCrossed subject = new RoadsCrossed();
         Model model = new Model();
@@ -265,100 +265,14 @@ public final class RoadsCrossedAgainstModel {
         return n > 0 ? lot.nextInt(n) : 0;
     }
 
-    private static int answer(RoadsCrossed x, int[] c) {
-        switch (CALLS[c[0]]) {
-            case "post": return x.post(c[1], c[2]);
-            case "postTold": return x.postTold(c[1], c[2]);
-            case "move": return x.move(c[1], c[2], c[3]);
-            case "layer": return x.layer(c[1], c[2]);
-            case "road": return x.road(c[1], c[2], c[3]);
-            case "told": return x.told(c[1], c[2]);
-            case "as": return x.as(c[1], c[2]);
-            case "turns": return x.turns(c[1], c[2]);
-            case "set": return x.set(c[1], c[2], c[3]);
-            case "drop": return x.drop(c[1]);
-            case "cross": return x.cross(c[1], c[2]);
-            case "straight": return x.straight(c[1]);
-            case "bound": return x.bound();
-            case "would": return x.would(c[1], c[2]);
-            case "best": return x.best(c[1]);
-            case "swaps": return x.swaps(c[1]);
-            case "line": return x.line(c[1]);
-            case "at": return x.at(c[1]);
-            case "book": return x.book(c[1]);
-            case "pages": return x.pages(c[1]);
-            case "bestLine": return x.bestLine(c[1]);
-            case "layers": return x.layers(c[1]);
-            case "bestRow": return x.bestRow(c[1], c[2]);
-            case "deal": return x.deal(c[1], c[2]);
-            case "seed": return x.seed(c[1]);
-            case "feed": return x.feed(c[1], c[2], c[3]);
-            case "trim": return x.trim(c[1]);
-            case "text": return x.text();
-            case "textTold": return x.textTold(c[1], c[2]);
-            case "why": return x.why(c[1]);
-            case "sheet": return x.sheet(c[1], c[2], c[3]);
-            case "mark": return x.mark(c[1], c[2], c[3]);
-            case "pour": return x.pour(c[1]);
-            case "copy": return x.copy(c[1], c[2], c[3], c[4], c[5]);
-            case "lay": return x.lay(c[1], c[2], c[3]);
-            case "ask": return x.ask(c[1], c[2]);
-            case "item": return x.item(c[1], c[2]);
-            case "rest": return x.rest(c[1], c[2]);
-            case "tell": return x.tell(c[1]);
-            case "check": return x.check(c[1]);
-            case "keep": return x.keep();
-            case "back": return x.back();
-            default: return x.count(c[1]);
+    private static int answer(Object of, int[] call) throws ReflectiveOperationException {
+        Class<?>[] types = new Class<?>[call.length - 1];
+        Object[] values = new Object[call.length - 1];
+        for (int i = 0; i < values.length; i++) {
+            types[i] = int.class;
+            values[i] = call[i + 1];
         }
-    }
-
-    private static int answer(Model x, int[] c) {
-        switch (CALLS[c[0]]) {
-            case "post": return x.post(c[1], c[2]);
-            case "postTold": return x.postTold(c[1], c[2]);
-            case "move": return x.move(c[1], c[2], c[3]);
-            case "layer": return x.layer(c[1], c[2]);
-            case "road": return x.road(c[1], c[2], c[3]);
-            case "told": return x.told(c[1], c[2]);
-            case "as": return x.as(c[1], c[2]);
-            case "turns": return x.turns(c[1], c[2]);
-            case "set": return x.set(c[1], c[2], c[3]);
-            case "drop": return x.drop(c[1]);
-            case "cross": return x.cross(c[1], c[2]);
-            case "straight": return x.straight(c[1]);
-            case "bound": return x.bound();
-            case "would": return x.would(c[1], c[2]);
-            case "best": return x.best(c[1]);
-            case "swaps": return x.swaps(c[1]);
-            case "line": return x.line(c[1]);
-            case "at": return x.at(c[1]);
-            case "book": return x.book(c[1]);
-            case "pages": return x.pages(c[1]);
-            case "bestLine": return x.bestLine(c[1]);
-            case "layers": return x.layers(c[1]);
-            case "bestRow": return x.bestRow(c[1], c[2]);
-            case "deal": return x.deal(c[1], c[2]);
-            case "seed": return x.seed(c[1]);
-            case "feed": return x.feed(c[1], c[2], c[3]);
-            case "trim": return x.trim(c[1]);
-            case "text": return x.text();
-            case "textTold": return x.textTold(c[1], c[2]);
-            case "why": return x.why(c[1]);
-            case "sheet": return x.sheet(c[1], c[2], c[3]);
-            case "mark": return x.mark(c[1], c[2], c[3]);
-            case "pour": return x.pour(c[1]);
-            case "copy": return x.copy(c[1], c[2], c[3], c[4], c[5]);
-            case "lay": return x.lay(c[1], c[2], c[3]);
-            case "ask": return x.ask(c[1], c[2]);
-            case "item": return x.item(c[1], c[2]);
-            case "rest": return x.rest(c[1], c[2]);
-            case "tell": return x.tell(c[1]);
-            case "check": return x.check(c[1]);
-            case "keep": return x.keep();
-            case "back": return x.back();
-            default: return x.count(c[1]);
-        }
+        return (Integer) of.getClass().getDeclaredMethod(CALLS[call[0]], types).invoke(of, values);
     }
 
     /** Texts by lot: most of them right, some with a byte changed, taken out or put in. */
