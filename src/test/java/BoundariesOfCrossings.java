@@ -217,6 +217,48 @@ public final class BoundariesOfCrossings extends Boundaries {
         due("999 for each pair", x.straight(1), 999 * pairs);
     }
 
+    @Of(promise = 13, sentence = "2 the ROAD with the most COST of its own")
+    static void straightOf18Roads() {
+        RoadsCrossed x = posts(8);
+        for (int ends : new int[] {4, 15, 26, 37, 2, 13, 24, 35, 46, 57, 6, 17, 3, 14, 25, 36, 47, 5}) {
+            x.road(0, ends, 1);
+        }
+        due("roads", x.count(1), 18);
+        int dearest = -1;
+        int most = 0;
+        for (int road = 0; road < 18; road++) {
+            int crossed = 0;
+            for (int other = 0; other < 18; other++) {
+                crossed += other != road ? x.cross(road, other) : 0;
+            }
+            if (crossed > most) {
+                most = crossed;
+                dearest = road;
+            }
+        }
+        due("straight(2)", x.straight(2), dearest);
+    }
+
+    @Of(promise = 13, sentence = "2 the ROAD with the most COST of its own")
+    static void straightOfARoadThatIsGoneDoesNotCount() {
+        RoadsCrossed x = empty();
+        int[][] places = {{0, 5}, {10, 5}, {5, 0}, {5, 20}, {0, 15}, {10, 15}};
+        for (int[] place : places) {
+            x.post(place[0], place[1]);
+        }
+        x.road(0, 1, 3);
+        x.road(0, 23, 1);
+        x.road(0, 45, 1);
+        due("road 1 crosses both others", x.straight(2), 1);
+        x.drop(2);
+        due("roads 0 and 1 cross one another", x.straight(2), 0);
+        x.road(0, 45, 9);
+        due("road 1 again", x.straight(2), 1);
+        x.drop(0);
+        due("the two that are left", x.straight(2), 0);
+        due("cost", x.straight(1), 10);
+    }
+
     // ---- promise 14
 
     @Of(promise = 14, sentence = "BOUND.")

@@ -304,6 +304,20 @@ public final class BoundariesOfLines extends Boundaries {
         due("none cross then", y.book(0), 0);
     }
 
+    @Of(promise = 21, sentence = "FEWEST PAGES: what -1 how many, else the PAGE of that ROAD.")
+    static void pagesAgainWhenRoadsOrTheLineChange() {
+        RoadsCrossed x = roads(8, 4, 15, 26, 37);
+        due("four that all cross", x.pages(-1), 4);
+        x.drop(0);
+        due("three", x.pages(-1), 3);
+        due("the first", x.pages(0), 0);
+        due("the last", x.pages(2), 2);
+        row(x, 0, SHORTS, 0, 1, 5, 2, 6, 3, 7, 4);
+        x.line(0);
+        due("side by side", x.pages(-1), 1);
+        due("the last", x.pages(2), 0);
+    }
+
     // ---- promise 22
 
     @Of(promise = 22, sentence = "BAD: what below -1")
@@ -358,6 +372,55 @@ public final class BoundariesOfLines extends Boundaries {
         due("its cost", y.book(1), cost);
     }
 
+    @Of(promise = 22, sentence = "BEST LINE: what -1 the COST, else the POST at that place.")
+    static void bestLineIsTheFirstBestOfAllRows() {
+        int[][] lands = {
+            {2, 13, 24, 3, 14},
+            {14, 3, 24, 13, 2, 34},
+            {1, 12, 23, 34, 4, 2, 13},
+            {24, 13, 2, 14, 3, 1, 23, 34},
+            {34, 24, 23, 14, 13, 12, 4, 3, 2, 1}};
+        for (int[] ends : lands) {
+            RoadsCrossed x = roads(5, ends);
+            for (int road = 0; road < ends.length; road++) {
+                x.set(road, 0, 1 + road * 5 % 9);
+            }
+            bestOfAllRows(x);
+            x.drop(0);
+            bestOfAllRows(x);
+        }
+    }
+
+    /** Tries all 24 rows of 5 posts that begin with post 0. */
+    private static void bestOfAllRows(RoadsCrossed x) {
+        int least = MOST;
+        int best = 0;
+        x.sheet(0, SHORTS, 5);
+        for (int row = 1234; row <= 4321; row++) {
+            if (isOrderOf1To4(row)) {
+                for (int place = 1, rest = row, by = 1000; place <= 4; place++, rest %= by, by /= 10) {
+                    x.mark(0, place, rest / by);
+                }
+                x.line(0);
+                if (x.book(1) < least) {
+                    least = x.book(1);
+                    best = row;
+                }
+            }
+        }
+        due("cost", x.bestLine(-1), least);
+        due("row", 1000 * x.bestLine(1) + 100 * x.bestLine(2) + 10 * x.bestLine(3) + x.bestLine(4), best);
+        due("place 0", x.bestLine(0), 0);
+    }
+
+    private static boolean isOrderOf1To4(int row) {
+        int seen = 0;
+        for (int rest = row; rest > 0; rest /= 10) {
+            seen |= 1 << rest % 10;
+        }
+        return seen == 0b11110;
+    }
+
     // ---- promise 23
 
     @Of(promise = 23, sentence = "BAD.")
@@ -407,6 +470,28 @@ public final class BoundariesOfLines extends Boundaries {
             due("place " + place, fiveOverThree().bestRow(0, place), row[place]);
         }
         due("behind the last", fiveOverThree().bestRow(0, 5), NONE);
+    }
+
+    @Of(promise = 24, sentence = "BEST ROW of a LAYER (0 .. 3)")
+    static void bestRowOf5PostsIsTheLastOfAllWays() {
+        // Only with 4, 3, 2, 1, 0 none cross.
+        RoadsCrossed x = inLayers(roads(8, 45, 35, 36, 26, 16, 17, 7), 0, 0, 0, 0, 0, 1, 1, 1);
+        due("cost", x.bestRow(0, -1), 0);
+        for (int place = 0; place < 5; place++) {
+            due("place " + place, x.bestRow(0, place), 4 - place);
+        }
+    }
+
+    @Of(promise = 24, sentence = "BEST ROW of a LAYER (0 .. 3)")
+    static void bestRowOfOneLayerBehindAnother() {
+        RoadsCrossed x = fiveOverThree();
+        due("layer 0", x.bestRow(0, 0), 2);
+        due("layer 1", x.bestRow(1, 0), 7);
+        due("layer 1, the cost", x.bestRow(1, -1), 0);
+        due("layer 2, the cost as all stand", x.bestRow(2, -1), 6);
+        due("layer 1, the last", x.bestRow(1, 2), 5);
+        due("layer 1, behind the last", x.bestRow(1, 3), NONE);
+        due("layer 0 again", x.bestRow(0, 4), 4);
     }
 
     @Of(promise = 24, sentence = "NONE: it has no such place.")

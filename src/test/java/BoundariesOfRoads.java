@@ -355,6 +355,18 @@ public final class BoundariesOfRoads extends Boundaries {
         due("told(17, 0)", x.told(17, 0), BAD);
     }
 
+    @Of(promise = 11, sentence = "those with greater numbers have one less")
+    static void dropTakesPagesAlong() {
+        RoadsCrossed x = rich();
+        for (int road = 0; road < 4; road++) {
+            x.set(road, 1, road);
+        }
+        due("drop(1)", x.drop(1), 3);
+        due("page of road 0", x.told(0, 4), 0);
+        due("page of road 1", x.told(1, 4), 2);
+        due("page of road 2", x.told(2, 4), 3);
+    }
+
     @Of(promise = 11, sentence = "A ROAD goes; those with greater numbers have one less: how many there are.")
     static void dropOfTheLastChangesNoOther() {
         RoadsCrossed before = rich();

@@ -406,6 +406,33 @@ public final class BoundariesOfTexts extends Boundaries {
         leaves("no bytes and 14 texts", () -> fullWithTape(""), x -> x.text(), -100, () -> fullWithTape(""));
     }
 
+    @Of(promise = 29, sentence = "THE TAPE is a TEXT: its number. -100 less the place of its FAULT; FULL.")
+    static void textIsReadAnewBehindAnyFault() {
+        RoadsCrossed x = crossedSquare();
+        String[] faulty = {"harm w w", "harm 1 2", "harm 12345", "harm w1", "cross w", "harm", "harm ((", "harm !!", "swap", ""};
+        int[] places = {7, 7, 5, 6, 6, 4, 7, 7, 4, 0};
+        for (int i = 0; i < faulty.length; i++) {
+            due("text of \"" + faulty[i] + "\"", say(x, faulty[i]), -100 - places[i]);
+            due("a right one behind it", say(x, "harm " + i), i);
+            due("harm", x.told(0, 5), i);
+            due("numbers and names", x.textTold(i, 1), 1);
+        }
+    }
+
+    @Of(promise = 29, sentence = "THE TAPE is a TEXT: its number.")
+    static void textInPlaceOfALongerOne() {
+        RoadsCrossed x = crossedSquare();
+        x.keep();
+        due("a long one", say(x, "harm !w+1*2"), 0);
+        due("its harm", x.told(0, 5), 2);
+        x.back();
+        due("a short one", say(x, "harm w"), 0);
+        due("its harm", x.told(0, 5), 3);
+        due("its names", x.textTold(0, 1), 1);
+        x.back();
+        due("harm without a text", x.told(1, 5), 5);
+    }
+
     // ---- promise 30
 
     @Of(promise = 30, sentence = "BAD.")
