@@ -1,13 +1,9 @@
-import java.io.IOException;
 import java.lang.annotation.ElementType;
 import java.lang.annotation.Retention;
 import java.lang.annotation.RetentionPolicy;
 import java.lang.annotation.Target;
 import java.lang.reflect.InvocationTargetException;
 import java.lang.reflect.Method;
-import java.nio.charset.StandardCharsets;
-import java.nio.file.Files;
-import java.nio.file.Path;
 import java.util.ArrayList;
 import java.util.Arrays;
 import java.util.Comparator;
@@ -36,7 +32,6 @@ abstract class Boundaries {
     static final int LEAST = Integer.MIN_VALUE, MOST = Integer.MAX_VALUE;
     static final int SHORTS = 0, FLOATS = 1;
 
-    private static final Path DOCUMENT = Path.of("..", "shared", "DOC.md");
     private static final Map<String, Function<RoadsCrossed, int[]>> LOOKS = looks();
 
     private static String test = "";
@@ -44,6 +39,11 @@ abstract class Boundaries {
     private static int wrong = 0;
 
     // ---- running
+
+    /** Runs each test of a class that is of Terms alone. */
+    static void run(Class<?> tests) {
+        run(tests, 0, -1);
+    }
 
     /** Runs each test of a class; each promise from one to another must have one. */
     static void run(Class<?> tests, int firstPromise, int lastPromise) {
@@ -91,47 +91,20 @@ abstract class Boundaries {
     }
 
     private static String partOf(Of of) {
-        return of.promise() >= 0 ? "promise " + of.promise() : "Terms " + of.terms();
+        return of.promise() >= 0 ? Document.promise(of.promise()) : Document.terms(of.terms());
     }
 
     /** That each sentence stands in the part of the document that its test names; the tests go on without it. */
     private static void haveSentences(List<Method> methods) {
-        if (!Files.isReadable(DOCUMENT)) {
-            System.out.println("no " + DOCUMENT + " to find the sentences in");
+        Map<String, String> parts = Document.parts();
+        if (parts.isEmpty()) {
+            System.out.println("no document to find the sentences in");
             return;
         }
-        Map<String, String> parts = partsOfDocument();
         for (Method method : methods) {
             Of of = method.getAnnotation(Of.class);
             String part = parts.getOrDefault(partOf(of), "");
             holds(method.getName() + ": " + partOf(of) + " says \"" + of.sentence() + "\"", part.contains(of.sentence()));
-        }
-    }
-
-    private static Map<String, String> partsOfDocument() {
-        Map<String, String> parts = new LinkedHashMap<>();
-        String part = "";
-        for (String line : documentLines()) {
-            if (line.startsWith("## Terms")) {
-                part = "Terms 0";
-            } else if (line.startsWith("======== ")) {
-                part = "Terms " + line.charAt("======== ".length());
-            } else if (line.startsWith("## Promise ")) {
-                part = "promise " + line.substring("## Promise ".length(), line.indexOf(':'));
-            } else if (line.startsWith("## ")) {
-                part = "";
-            }
-            parts.merge(part, line + "\n", String::concat);
-        }
-        return parts;
-    }
-
-    private static List<String> documentLines() {
-        try {
-            return Files.readAllLines(DOCUMENT, StandardCharsets.UTF_8);
-        } catch (IOException unread) {
-            holds("the document can be read", false);
-            return List.of();
         }
     }
 

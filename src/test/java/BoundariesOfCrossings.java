@@ -1,3 +1,6 @@
+import java.util.Arrays;
+import java.util.function.BiPredicate;
+
 /** Boundary cases of promises 12 to 17, and of what Terms say of straight roads and swaps: each test names its sentence. */
 public final class BoundariesOfCrossings extends Boundaries {
     public static void main(String[] args) {
@@ -12,7 +15,7 @@ public final class BoundariesOfCrossings extends Boundaries {
         }
         x.road(0, 1, 1);
         x.road(0, 23, 1);
-        String what = java.util.Arrays.toString(places);
+        String what = Arrays.toString(places);
         due("cross " + what, x.cross(0, 1), want);
         due("cross, the other way round " + what, x.cross(1, 0), want);
         due("straight(0) " + what, x.straight(0), want);
@@ -80,7 +83,7 @@ public final class BoundariesOfCrossings extends Boundaries {
         meet(0, 0, 0, 10, 10, 6, 5, 10, 0);
     }
 
-    @Of(terms = 1, sentence = "two ROADS without a POST in common cross")
+    @Of(terms = 1, sentence = "STRAIGHT: two ROADS without a POST in common cross, if")
     static void straightRoadsWithAPostInCommonNeverCross() {
         RoadsCrossed x = empty();
         x.post(0, 0);
@@ -126,6 +129,85 @@ public final class BoundariesOfCrossings extends Boundaries {
         say(x, "cross 0");
         due("what costs 0 can not be less", x.best(0), NONE);
         due("they cross", x.straight(0), 1);
+    }
+
+    @Of(terms = 3, sentence = "BEST SWAP: of those that may be the one behind which the COST of all ROADS that cross STRAIGHT is least, if that is less than now; of several the first (by a, then b).")
+    static void bestSwapIsTheFirstBestOfAllThatMayBe() {
+        for (int z = 0; z < 40; z++) {
+            RoadsCrossed x = empty();
+            x.seed(z);
+            x.deal(0, 4 + z % 5);
+            x.deal(1, 20);
+            bestOfAllSwaps(x, (a, b) -> true);
+            say(x, "swap a+b-(a+b)/2*2");
+            bestOfAllSwaps(x, (a, b) -> (a + b) % 2 != 0);
+            say(x, "swap !a");
+            bestOfAllSwaps(x, (a, b) -> a == 0);
+            say(x, "cross 1");
+            bestOfAllSwaps(x, (a, b) -> a == 0);
+        }
+    }
+
+    private static void bestOfAllSwaps(RoadsCrossed x, BiPredicate<Integer, Integer> mayBe) {
+        int now = x.straight(1);
+        int least = 0;
+        int best = NONE;
+        for (int a = 0; a < x.count(0); a++) {
+            for (int b = a + 1; b < x.count(0); b++) {
+                int more = mayBe.test(a, b) ? x.would(a, b) : 0;
+                if (more < least) {
+                    least = more;
+                    best = 10 * a + b;
+                }
+            }
+        }
+        due("the swap", x.best(0), best);
+        due("the cost", x.best(1), best == NONE ? NONE : now + least);
+    }
+
+    @Of(terms = 3, sentence = "BOUND: how many crossings there are at least, however POSTS stand")
+    static void boundIsNeverAboveWhatIsCrossed() {
+        int[][] lands = {
+            {5, 1, 2, 3, 4, 12, 13, 14, 23, 24, 34},
+            {6, 3, 4, 5, 13, 14, 15, 23, 24, 25},
+            {6, 1, 2, 3, 4, 5, 12, 13, 14, 15, 23, 24, 25, 34, 35, 45},
+            {8, 4, 5, 6, 7, 14, 15, 16, 17, 24, 25, 26, 27, 34, 35, 36, 37}};
+        int[] bounds = {1, 1, 3, 4};
+        for (int land = 0; land < lands.length; land++) {
+            RoadsCrossed x = roads(lands[land][0], Arrays.copyOfRange(lands[land], 1, lands[land].length));
+            for (int turn = 0; turn < 20; turn++) {
+                due("bound", x.bound(), bounds[land]);
+                holds("so many are crossed", x.straight(0) >= bounds[land]);
+                moveAll(x, turn);
+            }
+        }
+    }
+
+    /** Posts go to places of which no three are in a line (those of x times x by 97). */
+    private static void moveAll(RoadsCrossed x, int turn) {
+        for (int post = 0; post < x.count(0); post++) {
+            int to = (turn * 31 + post * (2 * turn + 1) + 8) % 97;
+            x.move(post, to, to * to % 97);
+        }
+    }
+
+    @Of(terms = 3, sentence = "if no ring of ROADS is of odd many (POSTS can be parted in two sets so that each ROAD is from the one to the other): 4 more than ROADS less 2 times POSTS, if that is more.")
+    static void boundWithoutAndWithARingOfOddMany() {
+        int[] threeAndFour = {3, 4, 5, 6, 13, 14, 15, 16, 23, 24, 25, 26};
+        due("3 and 4 posts, 12 roads", roads(7, threeAndFour).bound(), 2);
+        due("one post more", roads(8, threeAndFour).bound(), 0);
+        RoadsCrossed x = roads(7, threeAndFour);
+        x.road(0, 1, 1);
+        due("a ring of three", x.bound(), 0);
+        x.drop(12);
+        due("and it goes", x.bound(), 2);
+        due("post 7 to one set: rings of four", roads(8, 4, 5, 6, 13, 14, 15, 16, 23, 24, 25, 26, 7, 17).bound(), 1);
+        due("post 7 to both sets: rings of five", roads(8, 4, 5, 6, 13, 14, 15, 16, 23, 24, 25, 26, 7, 37).bound(), 0);
+        RoadsCrossed y = roads(8, 4, 5, 6, 13, 14, 15, 16, 23, 24, 25, 26, 7, 17);
+        moveAll(y, 3);
+        y.turns(0, 5);
+        due("places and kinds do not matter", y.bound(), 1);
+        due("three posts and a ring of three", roads(3, 1, 2, 12).bound(), 0);
     }
 
     @Of(terms = 3, sentence = "6 more than ROADS less 3 times POSTS (0 at least; with fewer than 3 POSTS BOUND is 0, whatever follows)")
@@ -203,7 +285,7 @@ public final class BoundariesOfCrossings extends Boundaries {
         due("bridges cost 0 too", x.straight(2), 0);
     }
 
-    @Of(promise = 13, sentence = "what 0 how many pairs, 1 COST")
+    @Of(promise = 13, sentence = "Of all ROADS that cross STRAIGHT: what 0 how many pairs, 1 COST")
     static void straightOfTheMostCost() {
         RoadsCrossed x = posts(8);
         x.deal(1, 20);

@@ -1,3 +1,8 @@
+import java.util.ArrayList;
+import java.util.Iterator;
+import java.util.List;
+import java.util.function.Supplier;
+
 /** Boundary cases of promises 18 to 24, and of what Terms say of the line, the book and layers: each test names its sentence. */
 public final class BoundariesOfLines extends Boundaries {
     public static void main(String[] args) {
@@ -125,6 +130,98 @@ public final class BoundariesOfLines extends Boundaries {
         x.set(1, 1, 3);
         due("other pages do not matter", x.bestLine(-1), 2);
         due("though none cross in the book", x.book(0), 0);
+    }
+
+    @Of(terms = 2, sentence = "the one with the least COST of all ROADS that would cross, if all were on one PAGE")
+    static void bestLineIsOfTheLeastCostNotOfTheFewestPairs() {
+        // With all roads among five posts each row has five pairs; what they cost is another matter.
+        RoadsCrossed x = roads(5, 1, 12, 23, 34, 4, 2, 13, 24, 3, 14);
+        for (int road = 5; road < 10; road++) {
+            x.set(road, 0, 9);
+        }
+        due("pairs as the line is", x.book(0), 5);
+        due("their cost", x.book(1), 90);
+        due("the least", x.bestLine(-1), 10);
+        int[] best = {0, 2, 4, 1, 3};
+        for (int place = 0; place < 5; place++) {
+            due("place " + place, x.bestLine(place), best[place]);
+        }
+        say(x, "cross 7");
+        due("if all cost the same", x.bestLine(-1), 35);
+        due("the first row", x.bestLine(1), 1);
+    }
+
+    @Of(terms = 2, sentence = "BEST ROW of a LAYER (5 POSTS at most): of all ways in which POSTS of it change among their places in THE LINE the one with the least COST of all ROADS that cross IN LAYERS; of several the first (by these places, the lesser POST first).")
+    static void bestRowIsTheFirstBestOfAllWays() {
+        for (int z = 0; z < 4; z++) {
+            int seed = z;
+            bestOfAllWays(() -> drawnInLayers(seed, 0, 1, 0, 1, 0, 1, 0, 0), 0);
+            bestOfAllWays(() -> drawnInLayers(seed, 0, 1, 0, 1, 0, 1, 0, 0), 1);
+            bestOfAllWays(() -> drawnInLayers(seed, 2, 1, 1, 2, 1, 3, 1, 1), 1);
+            bestOfAllWays(() -> drawnInLayers(seed, 3, 2, 3, 1, 2, 3, 3, 0), 3);
+            bestOfAllWays(() -> drawnInLayers(seed, 3, 2, 3, 1, 2, 3, 3, 0), 0);
+        }
+        bestOfAllWays(() -> inLayers(posts(5), 2, 2, 2, 2, 2), 2);
+    }
+
+    /** Eight posts and some roads by lot, in these layers, in a line by lot. */
+    private static RoadsCrossed drawnInLayers(int z, int... layers) {
+        RoadsCrossed x = inLayers(posts(8), layers);
+        x.seed(z);
+        x.deal(1, 20);
+        int[] line = new int[8];
+        for (int place = 0; place < 8; place++) {
+            line[place] = (place * 3 + z) % 8;
+        }
+        row(x, 0, SHORTS, line);
+        x.line(0);
+        return x;
+    }
+
+    /** Each way is tried on an object of its own, since there are up to 120. */
+    private static void bestOfAllWays(Supplier<RoadsCrossed> state, int layer) {
+        List<Integer> line = new ArrayList<>();
+        List<Integer> posts = new ArrayList<>();
+        RoadsCrossed x = state.get();
+        for (int i = 0; i < x.count(0); i++) {
+            line.add(x.at(i));
+            if (x.postTold(i, 2) == layer) {
+                posts.add(i);
+            }
+        }
+        List<List<Integer>> ways = new ArrayList<>();
+        collectWays(posts, new ArrayList<>(), ways);
+        int least = MOST;
+        List<Integer> best = List.of();
+        for (List<Integer> way : ways) {
+            Iterator<Integer> next = way.iterator();
+            RoadsCrossed y = state.get();
+            row(y, 0, SHORTS, line.stream().mapToInt(post -> posts.contains(post) ? next.next() : post).toArray());
+            due("it is a line", y.line(0), line.size());
+            if (y.layers(1) < least) {
+                least = y.layers(1);
+                best = way;
+            }
+        }
+        due("the cost of layer " + layer, x.bestRow(layer, -1), least);
+        for (int place = 0; place < best.size(); place++) {
+            due("layer " + layer + ", place " + place, x.bestRow(layer, place), best.get(place));
+        }
+        due("layer " + layer + ", behind the last", x.bestRow(layer, best.size()), NONE);
+    }
+
+    /** All ways to put posts behind those that stand, the lesser post first. */
+    private static void collectWays(List<Integer> posts, List<Integer> standing, List<List<Integer>> ways) {
+        if (standing.size() == posts.size()) {
+            ways.add(new ArrayList<>(standing));
+        }
+        for (int post : posts) {
+            if (!standing.contains(post)) {
+                standing.add(post);
+                collectWays(posts, standing, ways);
+                standing.remove(standing.size() - 1);
+            }
+        }
     }
 
     @Of(terms = 2, sentence = "IN LAYERS two ROADS, both between a POST of LAYER l and one of LAYER l and 1 (l the same), without a POST in common, cross")

@@ -117,6 +117,22 @@ public final class BoundariesOfPosts extends Boundaries {
 
     // ---- promise 2
 
+    @Of(promise = 2, sentence = "One more POST: its number.")
+    static void postGoesOnFromHoweverManyThereAre() {
+        RoadsCrossed x = empty();
+        due("the first", x.post(0, 0), 0);
+        row(x, 0, SHORTS, 9999, 9998);
+        due("two are poured", x.pour(0), 2);
+        due("the fourth", x.post(99, 0), 3);
+        x.keep();
+        due("the fifth", x.post(0, 99), 4);
+        due("the sixth", x.post(50, 50), 5);
+        x.back();
+        due("the fifth again", x.post(50, 51), 4);
+        due("its y", x.postTold(4, 1), 51);
+        due("what was the sixth is none", x.postTold(5, 0), BAD);
+    }
+
     @Of(promise = 2, sentence = "BAD; NO: there is one at that place; FULL.")
     static void postRefusesXOrYOutside() {
         for (int v : outside(0, 99)) {
@@ -170,7 +186,7 @@ public final class BoundariesOfPosts extends Boundaries {
         }
     }
 
-    @Of(promise = 3, sentence = "what 0 x, 1 y, 2 LAYER, 3 its place in THE LINE, 4 how many ROADS are from it")
+    @Of(promise = 3, sentence = "Of a POST: what 0 x, 1 y, 2 LAYER, 3 its place in THE LINE, 4 how many ROADS are from it")
     static void postToldTellsTheLeastAndTheMost() {
         RoadsCrossed x = full();
         due("roads from post 0", x.postTold(0, 4), 7);

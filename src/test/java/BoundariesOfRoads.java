@@ -46,6 +46,24 @@ public final class BoundariesOfRoads extends Boundaries {
         due("its weight", x.told(2, 3), 1);
     }
 
+    @Of(terms = 1, sentence = "and of a KIND: 0 ROAD; 1 PAVED, 2 TRACK, 5 BRIDGE, under ROAD; 3 TOLL, under PAVED; 4 MUD, under TRACK (all are ROADS).")
+    static void kindsGoFrom0To5AndAllAreRoads() {
+        RoadsCrossed x = posts(8);
+        int[] above = {0, 0, 0, 1, 2, 0};
+        for (int kind = 0; kind <= 5; kind++) {
+            due("road of kind " + kind, x.road(kind, kind + 1, 9), kind);
+            due("its kind", x.told(kind, 0), kind);
+            due("as a ROAD", x.as(kind, 0), 9);
+            due("as what it is under", x.as(kind, above[kind]), 9);
+            due("as what it is", x.as(kind, kind), 9);
+        }
+        due("as PAVED, what is under TRACK", x.as(4, 1), KIND);
+        due("as TRACK, what is under PAVED", x.as(3, 2), KIND);
+        due("no kind 6", x.road(6, 7, 1), BAD);
+        due("no kind -1", x.road(-1, 7, 1), BAD);
+        due("six roads", x.count(1), 6);
+    }
+
     @Of(terms = 1, sentence = "HARM: ROAD: what harm gives, held within 0 .. 99 (without a TEXT: WEIGHT).")
     static void harmIsHeldWithin0And99() {
         RoadsCrossed x = crossedSquare();
@@ -232,7 +250,44 @@ public final class BoundariesOfRoads extends Boundaries {
         }
     }
 
+    @Of(promise = 7, sentence = "Of a ROAD: what 0 KIND, 1 the lesser POST, 2 the greater POST, 3 WEIGHT, 4 PAGE, 5 HARM, 6 WORTH.")
+    static void toldTellsTheLeastAndTheMost() {
+        int[] least = {0, 0, 1, 1, 0, 1, 9};
+        int[] most = {5, 6, 7, 9, 3, 0, 20};
+        int[] dearest = {3, 6, 7, 9, 3, 202, -3};
+        for (int what = 0; what <= 6; what++) {
+            int w = what;
+            tellsOnly("the least: told(0, " + w + ")", () -> leastAndMost(5), x -> x.told(0, w), least[w]);
+            tellsOnly("the most: told(1, " + w + ")", () -> leastAndMost(5), x -> x.told(1, w), most[w]);
+            RoadsCrossed x = leastAndMost(3);
+            say(x, "harm 9999");
+            due("the most harm: told(1, " + w + ")", x.told(1, w), dearest[w]);
+        }
+    }
+
+    /** Road 0 is 0-1, told as 10, of weight 1; road 1 is 6-7, told as 76, of some kind, weight 9, on page 3. */
+    private static RoadsCrossed leastAndMost(int kind) {
+        RoadsCrossed x = posts(8);
+        x.road(0, 10, 1);
+        x.road(kind, 76, 9);
+        x.set(1, 1, 3);
+        return x;
+    }
+
     // ---- promise 8
+
+    @Of(promise = 8, sentence = "A ROAD as one of a KIND: WEIGHT.")
+    static void asTellsTheLeastAndTheMostWeight() {
+        tellsOnly("weight 1", () -> leastAndMost(3), x -> x.as(0, 0), 1);
+        for (int kind : new int[] {0, 1, 3}) {
+            tellsOnly("a TOLL of weight 9 as " + kind, () -> leastAndMost(3), x -> x.as(1, kind), 9);
+        }
+        RoadsCrossed x = leastAndMost(3);
+        say(x, "harm 50");
+        due("whatever its harm is", x.as(1, 3), 9);
+        x.set(1, 0, 4);
+        due("as it is now", x.as(1, 3), 4);
+    }
 
     @Of(promise = 8, sentence = "KIND: it is not of that KIND, nor of one under it.")
     static void asTellsOfEachKindWhatItIsUnder() {

@@ -67,6 +67,60 @@ public final class BoundariesOfSheets extends Boundaries {
         }
     }
 
+    @Of(terms = 5, sentence = "SHEETS 0 .. 3 are rows of shorts (sort 0) or floats (1; whole numbers)")
+    static void sheetsFrom0To3OfEachSort() {
+        for (int sheet = 0; sheet <= 3; sheet++) {
+            RoadsCrossed x = rows();
+            due("shorts", x.sheet(sheet, 0, 2), 2);
+            x.mark(sheet, 1, 65535);
+            sheetIs(x, sheet, 0, -1);
+            due("floats", x.sheet(sheet, 1, 2), 2);
+            x.mark(sheet, 1, 65535);
+            sheetIs(x, sheet, 0, 65535);
+        }
+        for (int v : new int[] {-99999, -65537, -1, 0, 1, 65537, 99998}) {
+            floatIs(v, v);
+        }
+        refused("no sheet 4", () -> rows(), x -> x.sheet(4, 0, 2), BAD);
+        refused("no sort 2", () -> rows(), x -> x.sheet(0, 2, 2), BAD);
+    }
+
+    @Of(terms = 5, sentence = "A place of floats may be NO NUMBER.")
+    static void aPlaceOfFloatsMayBeNoNumber() {
+        RoadsCrossed x = full();
+        for (int place = 0; place < 24; place++) {
+            due("mark", x.mark(3, place, NONE), 1);
+        }
+        x.lay(0, 2, 3);
+        for (int place = 0; place < 24; place++) {
+            due("item", x.item(0, place), KIND);
+        }
+        due("none is poured", x.pour(3), 0);
+        due("0 again", x.mark(3, 0, 0), 1);
+        x.lay(0, 2, 3);
+        due("0 is a number", x.item(0, 0), 0);
+        due("its neighbour is none", x.item(0, 1), KIND);
+        refused("a place of shorts may not", () -> full(), y -> y.mark(2, 0, NONE), KIND);
+    }
+
+    @Of(terms = 5, sentence = "INDEX: there is no such place; SIZE: a number of places is below 0; KIND: it is none (of a KIND, a number, or another thing).")
+    static void findingsOfSheets() {
+        refused("INDEX of a row without places: mark", () -> rich(), x -> x.mark(3, 0, 0), INDEX);
+        refused("INDEX of a row without places: copy", () -> rich(), x -> x.copy(3, 0, 3, 0, 1), INDEX);
+        refused("INDEX of a row without places: item", () -> {
+            RoadsCrossed x = rich();
+            x.lay(0, 2, 3);
+            return x;
+        }, x -> x.item(0, 0), INDEX);
+        refused("SIZE: sheet", () -> rich(), x -> x.sheet(3, SHORTS, -1), SIZE);
+        refused("KIND, no number: item", () -> rich(), x -> x.item(2, 1), KIND);
+        refused("KIND, no number: mark", () -> rich(), x -> x.mark(0, 0, NONE), KIND);
+        refused("KIND, another thing: copy", () -> rich(), x -> x.copy(0, 0, 1, 0, 1), KIND);
+        refused("KIND, another thing: item", () -> rich(), x -> x.item(3, 0), KIND);
+        refused("KIND, none of a KIND: as", () -> rich(), x -> x.as(1, 1), KIND);
+        refused("KIND, none of a KIND: ask", () -> rich(), x -> x.ask(1, 1), KIND);
+    }
+
     // ---- promise 32
 
     @Of(promise = 32, sentence = "BAD: sheet, sort, n above 24; SIZE.")
@@ -211,7 +265,7 @@ public final class BoundariesOfSheets extends Boundaries {
         shortIs(NONE + 1, (short) -1000000004);
     }
 
-    @Of(promise = 33, sentence = "of floats v, -99999 .. 99999; NONE: NO NUMBER")
+    @Of(promise = 33, sentence = "of floats v, -99999 .. 99999; NONE: NO NUMBER): 1.")
     static void markOfFloatsAtTheEnds() {
         floatIs(99999, 99999);
         floatIs(-99999, -99999);
@@ -296,6 +350,21 @@ public final class BoundariesOfSheets extends Boundaries {
         due("posts", x.count(0), 8);
     }
 
+    @Of(promise = 34, sentence = "POSTS come from a SHEET, place by place from 0 on")
+    static void pourOfTheFirstPlaceFirst() {
+        RoadsCrossed x = rich();
+        row(x, 2, SHORTS, 9900, 99, 7);
+        due("there is room for two", x.pour(2), 2);
+        due("post 6: x", x.postTold(6, 0), 99);
+        due("post 6: y", x.postTold(6, 1), 0);
+        due("post 7: x", x.postTold(7, 0), 0);
+        due("post 7: y", x.postTold(7, 1), 99);
+        due("post 6 comes behind all", x.postTold(6, 3), 6);
+        due("post 7 comes behind it", x.postTold(7, 3), 7);
+        due("again, all are there", x.pour(2), 0);
+        sheetIs(x, 2, 9900, 99, 7);
+    }
+
     @Of(promise = 34, sentence = "(100 times x, and y)")
     static void pourOfNoPlacesAndOfCorners() {
         tellsOnly("no places", () -> rich(), x -> x.pour(3), 0);
@@ -378,6 +447,18 @@ public final class BoundariesOfSheets extends Boundaries {
         refused("NOTHING ahead of INDEX", () -> rows(), x -> x.copy(0, -1, 2, -1, -1), NOTHING);
         refused("NOTHING ahead of INDEX", () -> rows(), x -> x.copy(2, -1, 0, -1, -1), NOTHING);
         refused("KIND ahead of INDEX", () -> rows(), x -> x.copy(0, 99, 1, -1, -1), KIND);
+    }
+
+    @Of(promise = 35, sentence = "(From a SHEET, its place, to a SHEET, its place.)")
+    static void copyFromAPlaceToAPlace() {
+        RoadsCrossed x = rows();
+        due("copy(0, 4, 3, 0, 1)", x.copy(0, 4, 3, 0, 1), 1);
+        sheetIs(x, 3, 5, 8, 9);
+        due("copy(3, 1, 0, 3, 2)", x.copy(3, 1, 0, 3, 2), 2);
+        sheetIs(x, 0, 1, 2, 3, 8, 9);
+        sheetIs(x, 3, 5, 8, 9);
+        refused("copy(3, 3, 0, 1, 2): sheet 3 has no place 3", () -> rows(), y -> y.copy(3, 3, 0, 1, 2), INDEX);
+        refused("copy(0, 1, 3, 3, 2): the other way round", () -> rows(), y -> y.copy(0, 1, 3, 3, 2), INDEX);
     }
 
     @Of(promise = 35, sentence = "So many places of a SHEET come to another one (or the same), as they were: many.")

@@ -62,6 +62,34 @@ public final class BoundariesOfSlots extends Boundaries {
         }
     }
 
+    @Of(terms = 5, sentence = "SLOTS 0 .. 4 each hold nothing (at first)")
+    static void slotsFrom0To4EachHoldTheirOwn() {
+        RoadsCrossed x = crossedSquare();
+        for (int slot = 0; slot <= 4; slot++) {
+            due("slot " + slot + " held nothing", x.lay(slot, 3, 100 + slot), 0);
+        }
+        for (int slot = 0; slot <= 4; slot++) {
+            due("slot " + slot, x.rest(slot, 1000), 100 + slot);
+        }
+        due("slot 2 becomes a road", x.lay(2, 1, 1), 3);
+        due("slot 1 as it was", x.rest(1, 1000), 101);
+        due("slot 3 as it was", x.rest(3, 1000), 103);
+        due("no slot 5", x.lay(5, 3, 1), BAD);
+        due("no slot -1", x.lay(-1, 3, 1), BAD);
+    }
+
+    @Of(terms = 5, sentence = "or a number")
+    static void aNumberInASlotIsAnyInt() {
+        for (int v : new int[] {LEAST, -1, 0, 1, MOST, BAD, NOTHING, KIND}) {
+            RoadsCrossed x = holding(v).get();
+            due("what " + v + " leaves by 65536", x.rest(4, 65536), v % 65536);
+            due("what " + v + " leaves by -65535", x.rest(4, -65535), v % 65535);
+            due(v + " is no road", x.ask(4, 0), KIND);
+            due(v + " is no sheet", x.item(4, 0), KIND);
+            due(v + " was a number", x.lay(4, 0, 0), 3);
+        }
+    }
+
     // ---- promise 36
 
     @Of(promise = 36, sentence = "BAD: slot, thing, k")

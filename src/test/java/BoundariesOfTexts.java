@@ -129,6 +129,72 @@ public final class BoundariesOfTexts extends Boundaries {
         }
     }
 
+    @Of(terms = 4, sentence = "OR: AND { | AND }; AND: TEST { & TEST }")
+    static void fromOneToAsManyTestsAsThereIsRoomFor() {
+        value("5|0", 1);
+        value("5&0", 0);
+        value("0|".repeat(45) + "0", 0);
+        value("0|".repeat(45) + "5", 1);
+        value("1&".repeat(45) + "5", 1);
+        value("1&".repeat(45) + "0", 0);
+        value("0&".repeat(44) + "0|1", 1);
+        fault("harm " + "1|".repeat(45) + "|", 95);
+        fault("harm " + "1&".repeat(45), 95);
+        fault("harm |1", 5);
+        fault("harm &1", 5);
+        fault("harm 1|&1", 7);
+    }
+
+    @Of(terms = 4, sentence = "SUM: TERM { (+ | -) TERM }; TERM: PIECE { (* | /) PIECE }")
+    static void fromOneToAsManyTermsAndPiecesAsThereIsRoomFor() {
+        value("7", 7);
+        value("1+".repeat(45) + "1", 46);
+        value("99" + "-1".repeat(44), 55);
+        value("1*".repeat(45) + "7", 7);
+        value("64" + "/2".repeat(6), 1);
+        value("9-1+1-1", 8);
+        value("9/2*2/2", 4);
+        fault("harm +1", 5);
+        fault("harm *1", 5);
+        fault("harm 1+*1", 7);
+        fault("harm 1*/1", 7);
+        fault("harm 1--1", 7);
+    }
+
+    @Of(terms = 4, sentence = "A word is a row of letters a .. z, or of digits, as long as it goes")
+    static void wordsAreAsLongAsTheyGo() {
+        fault("harm" + "h".repeat(92), 0);
+        fault("harm " + "w".repeat(91), 5);
+        fault("harm " + "1".repeat(91), 5);
+        fault("harm 12 34", 8);
+        fault("harm 1 2 3 4", 7);
+        fault("ha rm 1", 0);
+        fault("harm `", 5);
+        fault("harm {", 5);
+        fault("harm :", 5);
+        fault("harm/1", 4);
+        fault("harm`w", 4);
+        fault("harm{w", 4);
+        fault("harm:1", 4);
+        value("w/1", 3);
+    }
+
+    @Of(terms = 4, sentence = "FAULT: the first byte of the first word or sign with which no TEXT goes on (a word that needs a blank ahead of it, a NUMBER of more than 4 digits")
+    static void ofSeveralFaultsTheFirst() {
+        fault("harm ) ( 12345 w1", 5);
+        fault("harm 12345 )", 5);
+        fault("harm w1 ) 12345", 6);
+        fault("harm w12345", 6);
+        fault("harm 1234w5", 9);
+        fault("harm w ) w1", 7);
+        fault("harm 1 + ) 12345", 9);
+        fault("harm 1+99999+w1", 7);
+        fault("harm (w1", 7);
+        fault("harm !(p", 7);
+        fault("swop 12345", 0);
+        fault("?harm", 0);
+    }
+
     @Of(terms = 4, sentence = "TEST: SUM [ (< | = | >) SUM ]")
     static void aTestHasOneSignAtMost() {
         fine("harm w<1");
@@ -236,7 +302,7 @@ public final class BoundariesOfTexts extends Boundaries {
         value("9/0*0+4", 4);
     }
 
-    @Of(terms = 0, sentence = "/ cuts towards 0")
+    @Of(terms = 0, sentence = "All numbers are whole; / cuts towards 0.")
     static void aQuotientIsCutTowards0() {
         value("50+7/2", 53);
         value("50+(0-7)/2", 47);
@@ -454,6 +520,20 @@ public final class BoundariesOfTexts extends Boundaries {
         for (int what : outside(0, 1)) {
             refused("textTold(0, " + what + ")", () -> rich(), x -> x.textTold(0, what), BAD);
         }
+    }
+
+    @Of(promise = 30, sentence = "Of a TEXT: what 0 KEY (0 harm, 1 cross, 2 swap)")
+    static void textToldOfEachKey() {
+        RoadsCrossed x = empty();
+        String[] keys = {"harm", "cross", "swap"};
+        for (int text = 0; text < 14; text++) {
+            due("text " + text, say(x, keys[text * 2 % 3] + " 1"), text);
+        }
+        for (int text = 0; text < 14; text++) {
+            due("key of text " + text, x.textTold(text, 0), text * 2 % 3);
+        }
+        tellsOnly("the first of 14", () -> full(), y -> y.textTold(0, 0), 1);
+        tellsOnly("the last of 14", () -> full(), y -> y.textTold(13, 0), 2);
     }
 
     @Of(promise = 30, sentence = "1 how many NUMBERS and NAMES it has")
